@@ -277,8 +277,12 @@ public final class PostingShelf {
             loseAllUnwritten();
             return CUT;
         }
-        bytesToFailure -= powerFails ? written : 0;
-        lastNumber += segmentBytes > 0 ? 1 : 0;
+        if (powerFails) {
+            bytesToFailure -= written;
+        }
+        if (segmentBytes > 0) {
+            lastNumber++;
+        }
         Catalog old = disk;
         disk = plan;
         plan = old;
@@ -581,7 +585,6 @@ public final class PostingShelf {
             this.term = term;
         }
 
-        @Override
         int holdsIn(Document document) {
             return document.placesOfTerm[term];
         }
@@ -600,7 +603,6 @@ public final class PostingShelf {
             this.top = top;
         }
 
-        @Override
         int holdsIn(Document document) {
             int a = below.holdsIn(document);
             int b = top.holdsIn(document);
@@ -612,7 +614,7 @@ public final class PostingShelf {
                 case BUT:
                     return b == 0 ? a : 0;
                 case FOLLOW:
-                    return b & a << 1;
+                    return b & (a << 1);
                 default:
                     return b & around(a, what - FOLLOW);
             }

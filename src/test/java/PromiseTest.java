@@ -408,6 +408,13 @@ public final class PromiseTest {
         CHECK.due("merge: all are there", x::documents, 3);
         CHECK.due("merge: a commit leaves them out", x::commit, 1);
         CHECK.due("merge: none is there", x::segments, 0);
+        PostingShelf y = fiveSegments(800);
+        y.delete(1);
+        y.delete(5);
+        CHECK.due("merge: doomed ones before and behind it", () -> y.merge(1, 2), 13 + 9);
+        CHECK.same("merge: they stay", bytes(y, LIST), "4 1 0 6 0 4 0 5 0");
+        CHECK.due("merge: a commit leaves them out", y::commit, 5);
+        CHECK.same("merge: they are gone", bytes(y, LIST), "2 6 0 4 0");
     }
 
     private static void mergeRoom() {
