@@ -27,6 +27,10 @@ final class Check {
         same(what, Boolean.toString(got), "true");
     }
 
+    void holdsNot(String what, boolean got) {
+        same(what, Boolean.toString(got), "false");
+    }
+
     void illegalArgument(String what, Call call) {
         same(what, told(call), "throws.IllegalArgumentException");
     }
@@ -52,6 +56,14 @@ final class Check {
 
     boolean hasFailed() {
         return failed > 0;
+    }
+
+    int countFailed() {
+        return failed;
+    }
+
+    int countAll() {
+        return passed + failed;
     }
 
     /** Prints the sum of all and ends the program with exit code 1 if something did not hold. */

@@ -4,7 +4,7 @@ public final class PromiseTest {
     private static final int MAX = Integer.MAX_VALUE;
     private static final int CUT = PostingShelf.CUT;
     private static final int NONE = PostingShelf.NONE;
-    private static final int LIST = -1;
+    private static final int LIST = Shelf.LIST;
 
     private static final int BOTH = 0;
     private static final int EITHER = 1;
@@ -61,16 +61,16 @@ public final class PromiseTest {
             CHECK.due("room " + pair[0], () -> new PostingShelf(pair[0]).free(), pair[1]);
         }
         PostingShelf x = new PostingShelf(800);
-        CHECK.same("new", shown(x), "documents 0 buffered 0 segments 0 free 800 list");
+        CHECK.same("new", Shelf.shown(x), "documents 0 buffered 0 segments 0 free 800 list");
         CHECK.due("new: size(0)", () -> x.size(0), NONE);
         CHECK.due("new: at(-1, 0)", () -> x.at(LIST, 0), NONE);
         CHECK.due("new: at(0, 0)", () -> x.at(0, 0), NONE);
         CHECK.noSuchElement("new: discard", x::discard);
         CHECK.illegalState("new: the draft is empty", () -> x.add(0));
         CHECK.due("new: nothing to commit", x::commit, 0);
-        CHECK.same("new: still no list", shown(x), "documents 0 buffered 0 segments 0 free 800 list");
+        CHECK.same("new: still no list", Shelf.shown(x), "documents 0 buffered 0 segments 0 free 800 list");
         for (int key = 0; key < 12; key++) {
-            put(x, key, 0, 1, 2, 3, 4, 5, 6, 7);
+            Shelf.put(x, key, 0, 1, 2, 3, 4, 5, 6, 7);
         }
         CHECK.holds("new: the power does not fail", x.commit() > 0);
     }
@@ -94,7 +94,7 @@ public final class PromiseTest {
         CHECK.due("type: add", () -> x.add(9), 1);
         CHECK.due("type: the draft is empty again", () -> x.type(4), 1);
         CHECK.due("type: commit", x::commit, 3 + 6 * 5 + 2 * 1 + 3);
-        CHECK.same("type: the order counts", bytes(x, 0),
+        CHECK.same("type: the order counts", Shelf.bytes(x, 0),
             "1 9 8 0 1 0 1 1 1 1 0 1 4 2 1 0 1 5 3 1 0 1 6 7 1 0 2 2 1 15 1 0 2 0 7");
     }
 
@@ -134,8 +134,8 @@ public final class PromiseTest {
 
     private static void addWithKeysThatAreGone() {
         PostingShelf x = new PostingShelf(800);
-        put(x, 5, 1);
-        put(x, 9, 1);
+        Shelf.put(x, 5, 1);
+        Shelf.put(x, 9, 1);
         x.delete(9);
         x.type(1);
         CHECK.illegalArgument("add: 5 is in the buffer", () -> x.add(5));
@@ -163,19 +163,19 @@ public final class PromiseTest {
 
     private static void delete() {
         PostingShelf x = new PostingShelf(800);
-        CHECK.due("delete: there is none", () -> asInt(x.delete(0)), 0);
-        put(x, 0, 1);
-        put(x, 3, 2);
-        put(x, 8, 3);
+        CHECK.due("delete: there is none", () -> Shelf.asInt(x.delete(0)), 0);
+        Shelf.put(x, 0, 1);
+        Shelf.put(x, 3, 2);
+        Shelf.put(x, 8, 3);
         int[] wrong = {-1, 1, 9, MIN, MAX};
         for (int key : wrong) {
-            CHECK.due("delete: there is none " + key, () -> asInt(x.delete(key)), 0);
+            CHECK.due("delete: there is none " + key, () -> Shelf.asInt(x.delete(key)), 0);
         }
-        CHECK.due("delete: out of the buffer", () -> asInt(x.delete(3)), 1);
-        CHECK.due("delete: no more in the buffer", () -> asInt(x.delete(3)), 0);
+        CHECK.due("delete: out of the buffer", () -> Shelf.asInt(x.delete(3)), 1);
+        CHECK.due("delete: no more in the buffer", () -> Shelf.asInt(x.delete(3)), 0);
         CHECK.due("delete: two are left", x::buffered, 2);
         CHECK.due("delete: commit", x::commit, 1 + 4 + 2 * 5 + 3);
-        CHECK.same("delete: what is left stays in order", bytes(x, 0), "2 0 1 8 1 1 1 0 1 0 3 1 1 1 0");
+        CHECK.same("delete: what is left stays in order", Shelf.bytes(x, 0), "2 0 1 8 1 1 1 0 1 0 3 1 1 1 0");
         x.type(1);
         x.delete(0);
         CHECK.due("delete: the draft stays", () -> x.type(1), 2);
@@ -183,22 +183,22 @@ public final class PromiseTest {
 
     private static void deleteUntilWritten() {
         PostingShelf x = new PostingShelf(800);
-        put(x, 1, 1);
-        put(x, 2, 1);
+        Shelf.put(x, 1, 1);
+        Shelf.put(x, 2, 1);
         x.commit();
-        String before = shown(x);
-        CHECK.due("delete: doomed", () -> asInt(x.delete(1)), 1);
-        CHECK.due("delete: doomed already", () -> asInt(x.delete(1)), 0);
-        CHECK.same("delete: not yet written", shown(x), before);
+        String before = Shelf.shown(x);
+        CHECK.due("delete: doomed", () -> Shelf.asInt(x.delete(1)), 1);
+        CHECK.due("delete: doomed already", () -> Shelf.asInt(x.delete(1)), 0);
+        CHECK.same("delete: not yet written", Shelf.shown(x), before);
         CHECK.due("delete: written", x::commit, 4);
-        CHECK.due("delete: deleted already", () -> asInt(x.delete(1)), 0);
+        CHECK.due("delete: deleted already", () -> Shelf.asInt(x.delete(1)), 0);
         CHECK.due("delete: nothing to write", x::commit, 0);
         x.delete(2);
         x.fail(0);
         CHECK.due("delete: cut", x::commit, CUT);
         CHECK.due("delete: nothing is doomed then", x::commit, 0);
-        CHECK.due("delete: doomed anew", () -> asInt(x.delete(2)), 1);
-        CHECK.due("delete: what is deleted stays so", () -> asInt(x.delete(1)), 0);
+        CHECK.due("delete: doomed anew", () -> Shelf.asInt(x.delete(2)), 1);
+        CHECK.due("delete: what is deleted stays so", () -> Shelf.asInt(x.delete(1)), 0);
     }
 
     // Promise 5
@@ -213,33 +213,33 @@ public final class PromiseTest {
         x.type(5);
         CHECK.due("commit: a segment and a list", x::commit, 9 + 3);
         CHECK.due("commit: the draft stays", () -> x.type(5), 2);
-        CHECK.same("commit", shown(x), "documents 1 buffered 0 segments 1 free 288 list 1 1 0 | 1 3 2 4 1 0 2 0 1");
+        CHECK.same("commit", Shelf.shown(x), "documents 1 buffered 0 segments 1 free 288 list 1 1 0 | 1 3 2 4 1 0 2 0 1");
         x.add(4);
         CHECK.due("commit: one more", x::commit, 9 + 5);
-        CHECK.same("commit: behind the others", shown(x), "documents 2 buffered 0 segments 2 free 277"
+        CHECK.same("commit: behind the others", Shelf.shown(x), "documents 2 buffered 0 segments 2 free 277"
             + " list 2 1 0 2 0 | 1 3 2 4 1 0 2 0 1 | 1 4 2 5 1 0 2 0 1");
         CHECK.due("commit: nothing more", x::commit, 0);
-        put(x, 5, 6);
+        Shelf.put(x, 5, 6);
         x.delete(5);
         CHECK.due("commit: the buffer is empty again", x::commit, 0);
-        put(x, 5, 6);
-        put(x, 6, 6);
+        Shelf.put(x, 5, 6);
+        Shelf.put(x, 6, 6);
         x.commit();
         x.delete(6);
-        put(x, 7, 6);
+        Shelf.put(x, 7, 6);
         CHECK.due("commit: doomed ones and a new segment", x::commit, 8 + 10);
-        CHECK.same("commit: the list says both", bytes(x, LIST), "4 1 0 2 0 3 1 1 4 0");
+        CHECK.same("commit: the list says both", Shelf.bytes(x, LIST), "4 1 0 2 0 3 1 1 4 0");
     }
 
     private static void commitPacksSegments() {
         PostingShelf x = new PostingShelf(800);
-        put(x, 5, 3, 4, 3);
-        put(x, 300, 4);
-        put(x, 301, 3, 3, 3, 3, 3, 3, 3, 3);
-        put(x, 400, 15, 0);
-        put(x, 401, 4, 1, 1, 4);
+        Shelf.put(x, 5, 3, 4, 3);
+        Shelf.put(x, 300, 4);
+        Shelf.put(x, 301, 3, 3, 3, 3, 3, 3, 3, 3);
+        Shelf.put(x, 400, 15, 0);
+        Shelf.put(x, 401, 4, 1, 1, 4);
         CHECK.due("commit: packed", x::commit, 56 + 3);
-        CHECK.same("commit: packed", bytes(x, 0), "5 5 3 167 2 1 1 8 99 2 1 4"
+        CHECK.same("commit: packed", Shelf.bytes(x, 0), "5 5 3 167 2 1 1 8 99 2 1 4"
             + " 0 1 3 1 1"
             + " 1 1 4 2 1 1"
             + " 3 2 0 2 0 2 2 8 0 1 1 1 1 1 1 1"
@@ -249,96 +249,96 @@ public final class PromiseTest {
         x.delete(401);
         x.delete(301);
         CHECK.due("commit: deleted ones", x::commit, 6);
-        CHECK.same("commit: ordinals as a row", bytes(x, LIST), "1 1 3 1 1 2");
+        CHECK.same("commit: ordinals as a row", Shelf.bytes(x, LIST), "1 1 3 1 1 2");
         x.delete(5);
         CHECK.due("commit: one more of them", x::commit, 7);
-        CHECK.same("commit: ordinals from 0", bytes(x, LIST), "1 1 4 0 1 1 2");
+        CHECK.same("commit: ordinals from 0", Shelf.bytes(x, LIST), "1 1 4 0 1 1 2");
     }
 
     private static void commitPacksNumbers() {
         int[] keys = {127, 255, 16638, 33022, 2130173, 4227325, 272662780, MAX};
         PostingShelf x = new PostingShelf(800);
         for (int key : keys) {
-            put(x, key, 0);
+            Shelf.put(x, key, 0);
         }
         CHECK.holds("commit: large numbers", x.commit() > 0);
         CHECK.holds("commit: 127, 128, 16383, 16384, 2097151, 2097152, 268435455, the rest",
-            bytes(x, 0).startsWith("8 127 1 128 1 1 255 127 1 128 128 1 1 255 255 127 1 128 128 128 1 1"
+            Shelf.bytes(x, 0).startsWith("8 127 1 128 1 1 255 127 1 128 128 1 1 255 255 127 1 128 128 128 1 1"
                 + " 255 255 255 127 1 131 254 253 253 6 1 0 8 "));
         PostingShelf y = new PostingShelf(64);
-        put(y, MAX, 0);
+        Shelf.put(y, MAX, 0);
         y.commit();
-        CHECK.same("commit: the greatest key", bytes(y, 0), "1 255 255 255 255 7 1 0 1 0 1 0");
+        CHECK.same("commit: the greatest key", Shelf.bytes(y, 0), "1 255 255 255 255 7 1 0 1 0 1 0");
         PostingShelf z = new PostingShelf(64);
-        put(z, 268435456, 0);
+        Shelf.put(z, 268435456, 0);
         z.commit();
-        CHECK.same("commit: the least of five bytes", bytes(z, 0), "1 128 128 128 128 1 1 0 1 0 1 0");
+        CHECK.same("commit: the least of five bytes", Shelf.bytes(z, 0), "1 128 128 128 128 1 1 0 1 0 1 0");
     }
 
     private static void commitLeavesSegmentsOut() {
         PostingShelf x = new PostingShelf(800);
         for (int key = 1; key <= 3; key++) {
-            put(x, key, 2);
+            Shelf.put(x, key, 2);
             x.commit();
         }
         x.delete(2);
         CHECK.due("commit: a segment left out", x::commit, 5);
-        CHECK.same("commit: it is gone", shown(x), "documents 2 buffered 0 segments 2 free 779"
+        CHECK.same("commit: it is gone", Shelf.shown(x), "documents 2 buffered 0 segments 2 free 779"
             + " list 2 1 0 3 0 | 1 1 1 2 1 0 1 0 | 1 3 1 2 1 0 1 0");
         x.delete(1);
         x.delete(3);
-        put(x, 4, 2);
+        Shelf.put(x, 4, 2);
         CHECK.due("commit: all but the new one", x::commit, 8 + 3);
-        CHECK.same("commit: numbers go on", bytes(x, LIST), "1 4 0");
+        CHECK.same("commit: numbers go on", Shelf.bytes(x, LIST), "1 4 0");
         x.delete(4);
         CHECK.due("commit: none is left", x::commit, 1);
-        CHECK.same("commit: an empty list has a byte", shown(x), "documents 0 buffered 0 segments 0 free 799 list 0");
+        CHECK.same("commit: an empty list has a byte", Shelf.shown(x), "documents 0 buffered 0 segments 0 free 799 list 0");
         CHECK.due("commit: nothing to write", x::commit, 0);
-        put(x, 0, 2);
+        Shelf.put(x, 0, 2);
         x.commit();
-        CHECK.same("commit: a list without segment uses no number", bytes(x, LIST), "1 5 0");
+        CHECK.same("commit: a list without segment uses no number", Shelf.bytes(x, LIST), "1 5 0");
     }
 
     private static void commitRoom() {
-        PostingShelf fits = fiveSegments(72);
-        CHECK.due("commit: fits beside what is used", () -> commitOne(fits, 6), 8 + 13);
+        PostingShelf fits = Shelf.ofSegments(72, 5);
+        CHECK.due("commit: fits beside what is used", () -> Shelf.commitOne(fits, 6), 8 + 13);
         CHECK.due("commit: the old list is gone", fits::free, 72 - 6 * 8 - 13);
-        PostingShelf full = fiveSegments(71);
-        CHECK.illegalState("commit: one byte too much", () -> commitOne(full, 6));
-        PostingShelf x = fiveSegments(69);
-        put(x, 6, 1);
+        PostingShelf full = Shelf.ofSegments(71, 5);
+        CHECK.illegalState("commit: one byte too much", () -> Shelf.commitOne(full, 6));
+        PostingShelf x = Shelf.ofSegments(69, 5);
+        Shelf.put(x, 6, 1);
         x.type(9);
         x.delete(1);
-        String before = shown(x);
+        String before = Shelf.shown(x);
         CHECK.illegalState("commit: what is left out is still used", x::commit);
-        CHECK.same("commit: what throws leaves everything", shown(x), before);
+        CHECK.same("commit: what throws leaves everything", Shelf.shown(x), before);
         CHECK.due("commit: the draft too", () -> x.type(9), 2);
-        CHECK.due("commit: 1 is still doomed", () -> asInt(x.delete(1)), 0);
+        CHECK.due("commit: 1 is still doomed", () -> Shelf.asInt(x.delete(1)), 0);
         x.delete(6);
         CHECK.due("commit: the list alone finds room", x::commit, 9);
         CHECK.due("commit: a segment is gone", x::free, 69 - 4 * 8 - 9);
         x.add(7);
         CHECK.due("commit: and now there is room", x::commit, 9 + 11);
-        CHECK.same("commit: what throws uses no number", bytes(x, LIST), "5 2 0 3 0 4 0 5 0 6 0");
+        CHECK.same("commit: what throws uses no number", Shelf.bytes(x, LIST), "5 2 0 3 0 4 0 5 0 6 0");
     }
 
     private static void commitTenSegments() {
         PostingShelf x = new PostingShelf(800);
         for (int key = 1; key <= 10; key++) {
-            commitOne(x, key);
+            Shelf.commitOne(x, key);
         }
         CHECK.due("commit: ten segments", x::segments, 10);
-        put(x, 11, 1);
-        String before = shown(x);
+        Shelf.put(x, 11, 1);
+        String before = Shelf.shown(x);
         CHECK.illegalState("commit: an eleventh", x::commit);
-        CHECK.same("commit: what throws leaves everything", shown(x), before);
+        CHECK.same("commit: what throws leaves everything", Shelf.shown(x), before);
         x.fail(0);
         CHECK.illegalState("commit: an eleventh, before the power is looked at", x::commit);
         x.fail(MAX);
         x.delete(4);
         CHECK.due("commit: one goes, one comes", x::commit, 8 + 21);
         CHECK.due("commit: ten again", x::segments, 10);
-        CHECK.same("commit: in order", bytes(x, LIST), "10 1 0 2 0 3 0 5 0 6 0 7 0 8 0 9 0 10 0 11 0");
+        CHECK.same("commit: in order", Shelf.bytes(x, LIST), "10 1 0 2 0 3 0 5 0 6 0 7 0 8 0 9 0 10 0 11 0");
         x.delete(1);
         CHECK.due("commit: with ten segments", x::commit, 19);
     }
@@ -350,25 +350,25 @@ public final class PromiseTest {
         CHECK.illegalArgument("merge: no segments", () -> x.merge(0, 1));
         CHECK.illegalArgument("merge: no segments", () -> x.merge(0, 0));
         for (int key = 1; key <= 4; key++) {
-            put(x, key * 10, key, 9);
-            put(x, key * 10 + 1, 9, 9);
+            Shelf.put(x, key * 10, key, 9);
+            Shelf.put(x, key * 10 + 1, 9, 9);
             x.commit();
         }
         x.delete(20);
         x.delete(31);
         x.commit();
         x.type(5);
-        put(x, 99, 6);
+        Shelf.put(x, 99, 6);
         x.type(7);
-        String before = shown(x);
+        String before = Shelf.shown(x);
         int[][] wrong = {{-1, 1}, {MIN, MAX}, {0, 4}, {0, MAX}, {1, 1}, {2, 1}, {3, 4}, {0, -1}, {-2, -1}, {4, 5}, {0, 0}, {3, 3}};
         for (int[] pair : wrong) {
             CHECK.illegalArgument("merge " + pair[0] + " " + pair[1], () -> x.merge(pair[0], pair[1]));
         }
-        CHECK.same("merge: what throws leaves everything", shown(x), before);
+        CHECK.same("merge: what throws leaves everything", Shelf.shown(x), before);
         CHECK.due("merge", () -> x.merge(1, 2), 19 + 7);
-        CHECK.same("merge: in their place, without deleted ones", bytes(x, 1), "2 21 2 9 2 3 1 1 1 0 9 2 0 2 0 1 1 1 1");
-        CHECK.same("merge: a new list", bytes(x, LIST), "3 1 0 5 0 4 0");
+        CHECK.same("merge: in their place, without deleted ones", Shelf.bytes(x, 1), "2 21 2 9 2 3 1 1 1 0 9 2 0 2 0 1 1 1 1");
+        CHECK.same("merge: a new list", Shelf.bytes(x, LIST), "3 1 0 5 0 4 0");
         CHECK.due("merge: documents", x::documents, 6);
         CHECK.due("merge: the buffer stays", x::buffered, 1);
         CHECK.due("merge: the draft stays", () -> x.type(7), 2);
@@ -376,30 +376,30 @@ public final class PromiseTest {
         x.delete(99);
         x.commit();
         CHECK.due("merge: others keep their deleted ones", () -> x.merge(1, 2), 35 + 6);
-        CHECK.same("merge: the list", bytes(x, LIST), "2 1 1 0 6 0");
+        CHECK.same("merge: the list", Shelf.bytes(x, LIST), "2 1 1 0 6 0");
         CHECK.due("merge: all", () -> x.merge(0, 1), 41 + 3);
-        CHECK.same("merge: all", shown(x), "documents 5 buffered 0 segments 1 free 756 list 1 7 0"
+        CHECK.same("merge: all", Shelf.shown(x), "documents 5 buffered 0 segments 1 free 756 list 1 7 0"
             + " | 5 11 2 10 2 9 2 10 2 1 2 3 1 2 1 0 4 1 3 1 0 9 5 0 2 0 1 1 2 0 1 1 1 1 1 1 1 1 2 0 1");
     }
 
     private static void mergeKeepsDoomed() {
         PostingShelf x = new PostingShelf(800);
-        put(x, 1, 2);
-        put(x, 2, 2);
+        Shelf.put(x, 1, 2);
+        Shelf.put(x, 2, 2);
         x.commit();
-        put(x, 3, 2);
+        Shelf.put(x, 3, 2);
         x.commit();
         x.want(2);
         x.delete(1);
         CHECK.due("merge: doomed ones are written", () -> x.merge(0, 1), 18 + 3);
-        CHECK.same("merge: all three", shown(x), "documents 3 buffered 0 segments 1 free 779 list 1 3 0"
+        CHECK.same("merge: all three", Shelf.shown(x), "documents 3 buffered 0 segments 1 free 779 list 1 3 0"
             + " | 3 1 1 1 1 1 1 2 3 0 1 0 1 1 0 1 1 0");
         CHECK.due("merge: found while doomed", x::count, 3);
-        CHECK.due("merge: doomed ones stay doomed", () -> asInt(x.delete(1)), 0);
+        CHECK.due("merge: doomed ones stay doomed", () -> Shelf.asInt(x.delete(1)), 0);
         CHECK.due("merge: until a commit", x::commit, 4);
-        CHECK.same("merge: deleted then", bytes(x, LIST), "1 3 1 0");
+        CHECK.same("merge: deleted then", Shelf.bytes(x, LIST), "1 3 1 0");
         CHECK.due("merge: found no more", x::count, 2);
-        put(x, 4, 2);
+        Shelf.put(x, 4, 2);
         x.commit();
         x.delete(2);
         x.delete(3);
@@ -408,131 +408,131 @@ public final class PromiseTest {
         CHECK.due("merge: all are there", x::documents, 3);
         CHECK.due("merge: a commit leaves them out", x::commit, 1);
         CHECK.due("merge: none is there", x::segments, 0);
-        PostingShelf y = fiveSegments(800);
+        PostingShelf y = Shelf.ofSegments(800, 5);
         y.delete(1);
         y.delete(5);
         CHECK.due("merge: doomed ones before and behind it", () -> y.merge(1, 2), 13 + 9);
-        CHECK.same("merge: they stay", bytes(y, LIST), "4 1 0 6 0 4 0 5 0");
+        CHECK.same("merge: they stay", Shelf.bytes(y, LIST), "4 1 0 6 0 4 0 5 0");
         CHECK.due("merge: a commit leaves them out", y::commit, 5);
-        CHECK.same("merge: they are gone", bytes(y, LIST), "2 6 0 4 0");
+        CHECK.same("merge: they are gone", Shelf.bytes(y, LIST), "2 6 0 4 0");
     }
 
     private static void mergeRoom() {
-        PostingShelf fits = fiveSegments(73);
+        PostingShelf fits = Shelf.ofSegments(73, 5);
         CHECK.due("merge: fits beside what is used", () -> fits.merge(0, 1), 13 + 9);
         CHECK.due("merge: the old ones are gone", fits::free, 73 - 13 - 3 * 8 - 9);
-        CHECK.same("merge: the last number", bytes(fits, LIST), "4 6 0 3 0 4 0 5 0");
-        PostingShelf all = fiveSegments(82);
+        CHECK.same("merge: the last number", Shelf.bytes(fits, LIST), "4 6 0 3 0 4 0 5 0");
+        PostingShelf all = Shelf.ofSegments(82, 5);
         CHECK.due("merge: all five fit", () -> all.merge(0, 4), 28 + 3);
-        CHECK.illegalState("merge: all five do not", () -> fiveSegments(81).merge(0, 4));
-        PostingShelf x = fiveSegments(72);
+        CHECK.illegalState("merge: all five do not", () -> Shelf.ofSegments(81, 5).merge(0, 4));
+        PostingShelf x = Shelf.ofSegments(72, 5);
         x.type(3);
         x.delete(2);
-        String before = shown(x);
+        String before = Shelf.shown(x);
         CHECK.illegalState("merge: one byte too much", () -> x.merge(0, 1));
         x.fail(0);
         CHECK.illegalState("merge: room comes before power", () -> x.merge(0, 1));
         CHECK.illegalArgument("merge: places come before room", () -> x.merge(0, 5));
-        CHECK.same("merge: what throws leaves everything", shown(x), before);
+        CHECK.same("merge: what throws leaves everything", Shelf.shown(x), before);
         CHECK.due("merge: the draft stays", () -> x.type(3), 2);
-        CHECK.due("merge: doomed stays doomed", () -> asInt(x.delete(2)), 0);
+        CHECK.due("merge: doomed stays doomed", () -> Shelf.asInt(x.delete(2)), 0);
         CHECK.due("merge: the power still fails", x::commit, CUT);
     }
 
     private static void numbersOfTwoBytes() {
         PostingShelf x = new PostingShelf(800);
-        commitOne(x, 1);
+        Shelf.commitOne(x, 1);
         for (int key = 2; key <= 64; key++) {
-            commitOne(x, key);
+            Shelf.commitOne(x, key);
             x.merge(0, 1);
         }
-        CHECK.same("numbers: one byte", bytes(x, LIST), "1 127 0");
-        CHECK.due("numbers: two bytes", () -> commitOne(x, 65), 8 + 6);
-        CHECK.same("numbers: two bytes", bytes(x, LIST), "2 127 0 128 1 0");
+        CHECK.same("numbers: one byte", Shelf.bytes(x, LIST), "1 127 0");
+        CHECK.due("numbers: two bytes", () -> Shelf.commitOne(x, 65), 8 + 6);
+        CHECK.same("numbers: two bytes", Shelf.bytes(x, LIST), "2 127 0 128 1 0");
         CHECK.due("numbers: the next", () -> x.merge(0, 1), 328 + 4);
-        CHECK.same("numbers: the next", bytes(x, LIST), "1 129 1 0");
+        CHECK.same("numbers: the next", Shelf.bytes(x, LIST), "1 129 1 0");
     }
 
     // Promise 7
 
     private static void fail() {
         PostingShelf x = new PostingShelf(800);
-        CHECK.due("fail(-1)", () -> asInt(x.fail(-1)), 0);
-        CHECK.due("fail of the least", () -> asInt(x.fail(MIN)), 0);
-        CHECK.due("fail: it does not", () -> commitOne(x, 1), 11);
-        CHECK.due("fail(0)", () -> asInt(x.fail(0)), 1);
+        CHECK.due("fail(-1)", () -> Shelf.asInt(x.fail(-1)), 0);
+        CHECK.due("fail of the least", () -> Shelf.asInt(x.fail(MIN)), 0);
+        CHECK.due("fail: it does not", () -> Shelf.commitOne(x, 1), 11);
+        CHECK.due("fail(0)", () -> Shelf.asInt(x.fail(0)), 1);
         CHECK.due("fail: nothing is written", x::commit, 0);
-        CHECK.due("fail: at once", () -> commitOne(x, 2), CUT);
-        CHECK.due("fail: not again", () -> commitOne(x, 2), 13);
-        CHECK.due("fail(14)", () -> asInt(x.fail(14)), 1);
-        CHECK.due("fail(-1) changes nothing", () -> asInt(x.fail(-1)), 0);
-        CHECK.due("fail: one byte too early", () -> commitOne(x, 3), CUT);
+        CHECK.due("fail: at once", () -> Shelf.commitOne(x, 2), CUT);
+        CHECK.due("fail: not again", () -> Shelf.commitOne(x, 2), 13);
+        CHECK.due("fail(14)", () -> Shelf.asInt(x.fail(14)), 1);
+        CHECK.due("fail(-1) changes nothing", () -> Shelf.asInt(x.fail(-1)), 0);
+        CHECK.due("fail: one byte too early", () -> Shelf.commitOne(x, 3), CUT);
         x.fail(15);
-        CHECK.due("fail: just enough", () -> commitOne(x, 3), 15);
-        CHECK.due("fail: nothing is left", () -> commitOne(x, 4), CUT);
+        CHECK.due("fail: just enough", () -> Shelf.commitOne(x, 3), 15);
+        CHECK.due("fail: nothing is left", () -> Shelf.commitOne(x, 4), CUT);
         x.fail(3);
-        CHECK.due("fail: in place of what was said", () -> asInt(x.fail(MAX)), 1);
-        CHECK.due("fail: enough", () -> commitOne(x, 4), 17);
+        CHECK.due("fail: in place of what was said", () -> Shelf.asInt(x.fail(MAX)), 1);
+        CHECK.due("fail: enough", () -> Shelf.commitOne(x, 4), 17);
         x.fail(19 + 21);
-        CHECK.due("fail: n less so many", () -> commitOne(x, 5), 19);
-        CHECK.due("fail: down to 0", () -> commitOne(x, 6), 21);
+        CHECK.due("fail: n less so many", () -> Shelf.commitOne(x, 5), 19);
+        CHECK.due("fail: down to 0", () -> Shelf.commitOne(x, 6), 21);
         CHECK.due("fail: and no further", () -> x.merge(0, 1), CUT);
         x.fail(13 + 11 + 18);
         CHECK.due("fail: a merge takes from it too", () -> x.merge(0, 1), 13 + 11);
-        CHECK.due("fail: so that one is missing", () -> commitOne(x, 7), CUT);
-        CHECK.due("fail: and not again", () -> commitOne(x, 7), 8 + 13);
+        CHECK.due("fail: so that one is missing", () -> Shelf.commitOne(x, 7), CUT);
+        CHECK.due("fail: and not again", () -> Shelf.commitOne(x, 7), 8 + 13);
     }
 
     private static void failDuringCommit() {
-        PostingShelf x = fiveSegments(800);
-        put(x, 6, 1, 2);
-        put(x, 7, 1);
+        PostingShelf x = Shelf.ofSegments(800, 5);
+        Shelf.put(x, 6, 1, 2);
+        Shelf.put(x, 7, 1);
         x.commit();
         x.delete(7);
         x.commit();
         x.want(1);
         x.want(2);
-        String before = shown(x);
-        put(x, 8, 3);
+        String before = Shelf.shown(x);
+        Shelf.put(x, 8, 3);
         x.delete(1);
         x.delete(6);
         x.type(4);
         x.fail(10);
         CHECK.due("cut: a commit", x::commit, CUT);
-        CHECK.same("cut: the segments and the list stay", shown(x), before);
+        CHECK.same("cut: the segments and the list stay", Shelf.shown(x), before);
         CHECK.illegalState("cut: the draft is empty", () -> x.add(8));
         CHECK.due("cut: nothing is there to write", x::commit, 0);
         CHECK.due("cut: the pile stays", () -> x.combine(BOTH), 1);
         CHECK.due("cut: queries see what stayed", x::count, 1);
-        CHECK.due("cut: 1 is not doomed", () -> asInt(x.delete(1)), 1);
-        CHECK.due("cut: 7 is still deleted", () -> asInt(x.delete(7)), 0);
-        CHECK.due("cut: 8 is no key yet", () -> commitOne(x, 8), 8 + 14);
-        CHECK.same("cut: no number is used up", bytes(x, LIST), "6 2 0 3 0 4 0 5 0 6 1 1 7 0");
+        CHECK.due("cut: 1 is not doomed", () -> Shelf.asInt(x.delete(1)), 1);
+        CHECK.due("cut: 7 is still deleted", () -> Shelf.asInt(x.delete(7)), 0);
+        CHECK.due("cut: 8 is no key yet", () -> Shelf.commitOne(x, 8), 8 + 14);
+        CHECK.same("cut: no number is used up", Shelf.bytes(x, LIST), "6 2 0 3 0 4 0 5 0 6 1 1 7 0");
     }
 
     private static void failDuringMerge() {
-        PostingShelf x = fiveSegments(800);
+        PostingShelf x = Shelf.ofSegments(800, 5);
         x.want(1);
-        String before = shown(x);
-        put(x, 8, 3);
+        String before = Shelf.shown(x);
+        Shelf.put(x, 8, 3);
         x.delete(2);
         x.type(4);
         x.fail(13 + 9 - 1);
         CHECK.due("cut: a merge", () -> x.merge(0, 1), CUT);
-        CHECK.same("cut: the segments and the list stay, the buffer is empty", shown(x), before);
+        CHECK.same("cut: the segments and the list stay, the buffer is empty", Shelf.shown(x), before);
         CHECK.illegalState("cut: the draft is empty", () -> x.add(9));
         CHECK.due("cut: nothing is doomed", x::commit, 0);
         CHECK.due("cut: the pile stays", x::count, 5);
-        CHECK.due("cut: 2 is not doomed", () -> asInt(x.delete(2)), 1);
+        CHECK.due("cut: 2 is not doomed", () -> Shelf.asInt(x.delete(2)), 1);
         CHECK.due("cut: not again", () -> x.merge(0, 1), 13 + 9);
-        CHECK.same("cut: no number is used up", bytes(x, LIST), "4 6 0 3 0 4 0 5 0");
+        CHECK.same("cut: no number is used up", Shelf.bytes(x, LIST), "4 6 0 3 0 4 0 5 0");
         x.fail(13 + 7);
         CHECK.due("cut: just enough for a merge", () -> x.merge(1, 2), 13 + 7);
     }
 
     private static void refusedBeforeCut() {
-        PostingShelf x = fiveSegments(71);
-        put(x, 6, 1);
+        PostingShelf x = Shelf.ofSegments(71, 5);
+        Shelf.put(x, 6, 1);
         x.fail(5);
         CHECK.illegalState("cut: room comes before power", x::commit);
         CHECK.due("cut: the buffer stays", x::buffered, 1);
@@ -555,7 +555,7 @@ public final class PromiseTest {
         for (int t : wrong) {
             CHECK.illegalArgument("want: no term comes first " + t, () -> x.want(t));
         }
-        put(x, 1, 15, 0, 15, 13);
+        Shelf.put(x, 1, 15, 0, 15, 13);
         x.commit();
         CHECK.due("want: holds at the places of the term", () -> x.places(1), 1 + 4);
         CHECK.due("want: what throws leaves the pile", x::discard, 7);
@@ -587,12 +587,12 @@ public final class PromiseTest {
 
     private static void combineWays() {
         PostingShelf x = new PostingShelf(800);
-        put(x, 1, 1, 2, 1, 3);
-        put(x, 2, 1);
-        put(x, 3, 2, 1);
-        put(x, 4, 3, 3);
-        put(x, 5, 2);
-        put(x, 6, 5, 5, 5, 5, 5, 5, 5, 5);
+        Shelf.put(x, 1, 1, 2, 1, 3);
+        Shelf.put(x, 2, 1);
+        Shelf.put(x, 3, 2, 1);
+        Shelf.put(x, 4, 3, 3);
+        Shelf.put(x, 5, 2);
+        Shelf.put(x, 6, 5, 5, 5, 5, 5, 5, 5, 5);
         x.commit();
         way(x, 1, 2, BOTH, "7 0 3 0 0 0");
         way(x, 2, 1, BOTH, "7 0 3 0 0 0");
@@ -627,12 +627,12 @@ public final class PromiseTest {
 
     private static void combineNear() {
         PostingShelf x = new PostingShelf(800);
-        put(x, 1, 1, 0, 0, 0, 2, 0, 0, 1);
-        put(x, 2, 2, 2);
-        put(x, 3, 1, 2);
-        put(x, 4, 2, 9, 1);
-        put(x, 5, 1, 9, 9, 2, 2);
-        put(x, 6, 2);
+        Shelf.put(x, 1, 1, 0, 0, 0, 2, 0, 0, 1);
+        Shelf.put(x, 2, 2, 2);
+        Shelf.put(x, 3, 1, 2);
+        Shelf.put(x, 4, 2, 9, 1);
+        Shelf.put(x, 5, 1, 9, 9, 2, 2);
+        Shelf.put(x, 6, 2);
         x.commit();
         int near = 3;
         way(x, 1, 2, near + 1, "0 0 2 0 0 0");
@@ -660,7 +660,7 @@ public final class PromiseTest {
         x.want(8);
         CHECK.illegalState("combine: nine leaves", () -> x.combine(EITHER));
         CHECK.illegalArgument("combine: nine leaves and no way", () -> x.combine(11));
-        put(x, 1, 8, 0, 8, 7);
+        Shelf.put(x, 1, 8, 0, 8, 7);
         x.commit();
         CHECK.due("combine: what throws leaves the top", () -> x.places(1), 5);
         CHECK.due("combine: what throws leaves the pile", x::discard, 1);
@@ -688,7 +688,7 @@ public final class PromiseTest {
         x.want(1);
         x.want(2);
         x.want(3);
-        put(x, 1, 1, 2, 3);
+        Shelf.put(x, 1, 1, 2, 3);
         x.commit();
         CHECK.due("discard", x::discard, 2);
         CHECK.due("discard: the top one goes", () -> x.places(1), 2);
@@ -706,13 +706,13 @@ public final class PromiseTest {
         CHECK.noSuchElement("count: no query", x::count);
         x.want(1);
         CHECK.due("count: no document", x::count, 0);
-        put(x, 1, 1);
-        put(x, 2, 2);
-        put(x, 3, 1, 1, 2);
+        Shelf.put(x, 1, 1);
+        Shelf.put(x, 2, 2);
+        Shelf.put(x, 3, 1, 1, 2);
         CHECK.due("count: not the buffer's", x::count, 0);
         x.commit();
         CHECK.due("count: after the commit", x::count, 2);
-        put(x, 4, 3, 1);
+        Shelf.put(x, 4, 3, 1);
         x.commit();
         CHECK.due("count: in all segments", x::count, 3);
         x.delete(3);
@@ -734,13 +734,13 @@ public final class PromiseTest {
     private static void match() {
         PostingShelf x = new PostingShelf(800);
         CHECK.noSuchElement("match: no query", () -> x.match(0));
-        put(x, 3, 1);
-        put(x, 5, 2);
+        Shelf.put(x, 3, 1);
+        Shelf.put(x, 5, 2);
         x.commit();
-        put(x, 70, 1);
-        put(x, 71, 1);
+        Shelf.put(x, 70, 1);
+        Shelf.put(x, 71, 1);
         x.commit();
-        put(x, 99, 1);
+        Shelf.put(x, 99, 1);
         CHECK.noSuchElement("match: no query", () -> x.match(0));
         x.want(1);
         CHECK.due("match(0)", () -> x.match(0), 3);
@@ -766,8 +766,8 @@ public final class PromiseTest {
     private static void places() {
         PostingShelf x = new PostingShelf(800);
         CHECK.noSuchElement("places: no query", () -> x.places(1));
-        put(x, 0, 1, 2, 2, 2, 2, 2, 2, 1);
-        put(x, 4, 2);
+        Shelf.put(x, 0, 1, 2, 2, 2, 2, 2, 2, 1);
+        Shelf.put(x, 4, 2);
         CHECK.noSuchElement("places: no query", () -> x.places(0));
         x.want(1);
         CHECK.due("places: in the buffer", () -> x.places(0), NONE);
@@ -778,7 +778,7 @@ public final class PromiseTest {
         for (int key : wrong) {
             CHECK.due("places: no document " + key, () -> x.places(key), NONE);
         }
-        put(x, 5, 1);
+        Shelf.put(x, 5, 1);
         CHECK.due("places: in the buffer", () -> x.places(5), NONE);
         x.delete(0);
         CHECK.due("places: doomed", () -> x.places(0), 129);
@@ -794,12 +794,12 @@ public final class PromiseTest {
 
     private static void documents() {
         PostingShelf x = new PostingShelf(800);
-        put(x, 1, 1);
-        put(x, 2, 1);
+        Shelf.put(x, 1, 1);
+        Shelf.put(x, 2, 1);
         CHECK.due("documents: not the buffer's", x::documents, 0);
         x.commit();
         CHECK.due("documents", x::documents, 2);
-        put(x, 3, 1);
+        Shelf.put(x, 3, 1);
         x.commit();
         CHECK.due("documents: of all segments", x::documents, 3);
         x.delete(1);
@@ -820,13 +820,13 @@ public final class PromiseTest {
         x.type(1);
         CHECK.due("buffered: not the draft", x::buffered, 0);
         x.add(1);
-        put(x, 2, 1);
+        Shelf.put(x, 2, 1);
         CHECK.due("buffered", x::buffered, 2);
         x.delete(1);
         CHECK.due("buffered: one was taken out", x::buffered, 1);
         x.commit();
         CHECK.due("buffered: all are written", x::buffered, 0);
-        put(x, 3, 1);
+        Shelf.put(x, 3, 1);
         x.delete(2);
         CHECK.due("buffered: doomed ones are not there", x::buffered, 1);
     }
@@ -834,14 +834,14 @@ public final class PromiseTest {
     private static void segments() {
         PostingShelf x = new PostingShelf(800);
         CHECK.due("segments: none", x::segments, 0);
-        put(x, 1, 1);
+        Shelf.put(x, 1, 1);
         CHECK.due("segments: not the buffer", x::segments, 0);
         x.commit();
         CHECK.due("segments", x::segments, 1);
         x.commit();
         CHECK.due("segments: nothing new", x::segments, 1);
-        commitOne(x, 2);
-        commitOne(x, 3);
+        Shelf.commitOne(x, 2);
+        Shelf.commitOne(x, 3);
         CHECK.due("segments", x::segments, 3);
         x.merge(0, 1);
         CHECK.due("segments: merged", x::segments, 2);
@@ -857,9 +857,9 @@ public final class PromiseTest {
         PostingShelf x = new PostingShelf(800);
         CHECK.due("size: no list", () -> x.size(LIST), 0);
         CHECK.due("size: no segment", () -> x.size(0), NONE);
-        put(x, 1, 1, 2);
+        Shelf.put(x, 1, 1, 2);
         x.commit();
-        commitOne(x, 200);
+        Shelf.commitOne(x, 200);
         CHECK.due("size of the list", () -> x.size(LIST), 5);
         CHECK.due("size of the first", () -> x.size(0), 13);
         CHECK.due("size of the second", () -> x.size(1), 9);
@@ -878,7 +878,7 @@ public final class PromiseTest {
     private static void at() {
         PostingShelf x = new PostingShelf(800);
         CHECK.due("at: no list", () -> x.at(LIST, 0), NONE);
-        put(x, 200, 7);
+        Shelf.put(x, 200, 7);
         x.commit();
         int[] segment = {1, 200, 1, 1, 7, 1, 0, 1, 0};
         int[] list = {1, 1, 0};
@@ -906,11 +906,11 @@ public final class PromiseTest {
 
     private static void free() {
         PostingShelf x = new PostingShelf(100);
-        put(x, 1, 1, 2, 3);
+        Shelf.put(x, 1, 1, 2, 3);
         CHECK.due("free: the buffer uses nothing", x::free, 100);
         x.commit();
         CHECK.due("free: a segment and a list", x::free, 100 - 18 - 3);
-        commitOne(x, 2);
+        Shelf.commitOne(x, 2);
         CHECK.due("free: two segments and a list", x::free, 100 - 18 - 8 - 5);
         x.merge(0, 1);
         CHECK.due("free: after a merge", x::free, 100 - 23 - 3);
@@ -924,32 +924,6 @@ public final class PromiseTest {
     }
 
     // Helpers
-
-    private static int asInt(boolean answer) {
-        return answer ? 1 : 0;
-    }
-
-    private static void put(PostingShelf x, int key, int... terms) {
-        for (int t : terms) {
-            x.type(t);
-        }
-        x.add(key);
-    }
-
-    /** Commits a document with one term: its segment has 8 bytes while the key is less than 128. */
-    private static int commitOne(PostingShelf x, int key) {
-        put(x, key, 1);
-        return x.commit();
-    }
-
-    /** Five segments of 8 bytes, with keys 1 to 5, and a list of 11. */
-    private static PostingShelf fiveSegments(int room) {
-        PostingShelf x = new PostingShelf(room);
-        for (int key = 1; key <= 5; key++) {
-            commitOne(x, key);
-        }
-        return x;
-    }
 
     /** Combines two terms, checks where that holds in the documents 1 to 6, and takes it away again. */
     private static void way(PostingShelf x, int below, int top, int what, String due) {
@@ -966,26 +940,5 @@ public final class PromiseTest {
             text.append(key == 1 ? "" : " ").append(x.places(key));
         }
         return text.toString();
-    }
-
-    private static String bytes(PostingShelf x, int s) {
-        StringBuilder text = new StringBuilder();
-        int size = x.size(s);
-        for (int k = 0; k < size; k++) {
-            text.append(k == 0 ? "" : " ").append(x.at(s, k));
-        }
-        return text.toString();
-    }
-
-    /** All that can be seen but for queries. */
-    private static String shown(PostingShelf x) {
-        StringBuilder text = new StringBuilder();
-        text.append("documents ").append(x.documents()).append(" buffered ").append(x.buffered());
-        text.append(" segments ").append(x.segments()).append(" free ").append(x.free());
-        text.append(" list ").append(bytes(x, LIST));
-        for (int s = 0; s < x.segments(); s++) {
-            text.append(" | ").append(bytes(x, s));
-        }
-        return text.toString().trim();
     }
 }
