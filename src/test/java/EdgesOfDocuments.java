@@ -36,16 +36,9 @@ final class EdgesOfDocuments {
         for (int[] pair : rooms) {
             check.due("room " + pair[0], () -> new PostingShelf(pair[0]).free(), pair[1]);
         }
-        check.due("64 bytes are there", () -> commitOfSixtyFour(new PostingShelf(MIN), 0), 64);
-        check.illegalState("and no more", () -> commitOfSixtyFour(new PostingShelf(63), 1));
-        check.due("65 are there when they are asked for", () -> commitOfSixtyFour(new PostingShelf(65), 1), 65);
-    }
-
-    /** A segment and a list of 64 bytes and so many more. */
-    private static int commitOfSixtyFour(PostingShelf x, int more) {
-        Shelf.put(x, 1, 0, 1, 2, 3, 4, 5, 6, 7);
-        Shelf.put(x, 2, more == 0 ? new int[] {8, 9, 10, 10} : new int[] {8, 9, 10, 10, 10});
-        return x.commit();
+        check.due("64 bytes are there", () -> Settings.toWrite64(MIN, 0).commit(), 64);
+        check.illegalState("and no more", () -> Settings.toWrite64(63, 1).commit());
+        check.due("65 are there when they are asked for", () -> Settings.toWrite64(65, 1).commit(), 65);
     }
 
     private static void everythingIsEmpty(Check check) {
@@ -117,14 +110,8 @@ final class EdgesOfDocuments {
     private static void addOfNoKey(Check check) {
         Twins.refused(check, "add(-1)", ARGUMENT, Settings::rich, x -> x.add(-1));
         Twins.refused(check, "add of the least int", ARGUMENT, Settings::rich, x -> x.add(MIN));
-        Twins.refused(check, "add(-1) to nothing", ARGUMENT, EdgesOfDocuments::withDraftAlone, x -> x.add(-1));
-        check.due("add(0) to nothing", () -> withDraftAlone().add(0), 1);
-    }
-
-    private static PostingShelf withDraftAlone() {
-        PostingShelf x = new PostingShelf(64);
-        x.type(1);
-        return x;
+        Twins.refused(check, "add(-1) to nothing", ARGUMENT, Settings::draftAlone, x -> x.add(-1));
+        check.due("add(0) to nothing", () -> Settings.draftAlone().add(0), 1);
     }
 
     private static void addOfLesserKey(Check check) {
@@ -148,7 +135,7 @@ final class EdgesOfDocuments {
         taken.delete(41);
         check.illegalArgument("40 is in the buffer still", () -> taken.add(40));
         check.due("41 was taken out of it", () -> taken.add(41), 2);
-        PostingShelf most = withDraftAlone();
+        PostingShelf most = Settings.draftAlone();
         most.add(MAX);
         most.type(1);
         check.illegalArgument("none is greater than the greatest", () -> most.add(MAX));
@@ -228,7 +215,7 @@ final class EdgesOfDocuments {
             Twins.unchanged(check, "delete(" + key + ")", "0", Settings::rich, x -> Shelf.asInt(x.delete(key)));
         }
         Twins.unchanged(check, "a new object", "0", () -> new PostingShelf(64), x -> Shelf.asInt(x.delete(0)));
-        Twins.unchanged(check, "the draft has no key", "0", EdgesOfDocuments::withDraftAlone, x -> Shelf.asInt(x.delete(0)));
+        Twins.unchanged(check, "the draft has no key", "0", Settings::draftAlone, x -> Shelf.asInt(x.delete(0)));
         PostingShelf merged = Settings.rich();
         merged.merge(0, 2);
         check.holdsNot("deleted and merged away", merged.delete(11));

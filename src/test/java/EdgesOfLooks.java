@@ -133,9 +133,7 @@ final class EdgesOfLooks {
         Twins.unchanged(check, "free", Integer.toString(800 - 27 - 18 - 20 - 9), Settings::rich, PostingShelf::free);
         check.due("all of the least room", () -> new PostingShelf(0).free(), 64);
         check.due("all of the most room", () -> new PostingShelf(900).free(), 800);
-        PostingShelf x = new PostingShelf(64);
-        Shelf.put(x, 1, 0, 1, 2, 3, 4, 5, 6, 7);
-        Shelf.put(x, 2, 8, 9, 10, 10);
+        PostingShelf x = Settings.toWrite64(64, 0);
         check.due("the buffer uses none", x::free, 64);
         x.commit();
         check.due("none is free", x::free, 0);

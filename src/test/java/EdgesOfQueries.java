@@ -315,6 +315,8 @@ final class EdgesOfQueries {
         check.due("all", x::count, 12);
         x.want(2);
         check.due("none matches the top query", x::count, 0);
+        Twins.unchanged(check, "one of five", "1", Settings::rich, PostingShelf::count);
+        Twins.unchanged(check, "four of five", "4", () -> Settings.pileOf(1), PostingShelf::count);
     }
 
     private static void countOfNone(Check check) {
@@ -337,6 +339,7 @@ final class EdgesOfQueries {
         y.want(1);
         check.due("the least key", () -> y.match(0), 0);
         check.due("the greatest key", () -> y.match(1), MAX);
+        Twins.unchanged(check, "one of three queries", "12", Settings::rich, z -> z.match(0));
     }
 
     private static void matchOfNoQuery(Check check) {

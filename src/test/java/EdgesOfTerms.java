@@ -114,22 +114,14 @@ final class EdgesOfTerms {
     }
 
     private static void disk(Check check) {
-        PostingShelf full = new PostingShelf(64);
-        Shelf.put(full, 1, 0, 1, 2, 3, 4, 5, 6, 7);
-        Shelf.put(full, 2, 8, 9, 10, 10);
+        PostingShelf full = Settings.toWrite64(64, 0);
         check.due("all bytes are written", full::commit, 61 + 3);
         check.due("no byte is free", full::free, 0);
         check.due("nothing to write finds room", full::commit, 0);
         full.delete(1);
         check.illegalState("not even a list finds room", full::commit);
-        PostingShelf over = new PostingShelf(64);
-        Shelf.put(over, 1, 0, 1, 2, 3, 4, 5, 6, 7);
-        Shelf.put(over, 2, 8, 9, 10, 10, 10);
-        check.illegalState("a byte more than there are", over::commit);
-        PostingShelf larger = new PostingShelf(65);
-        Shelf.put(larger, 1, 0, 1, 2, 3, 4, 5, 6, 7);
-        Shelf.put(larger, 2, 8, 9, 10, 10, 10);
-        check.due("a disk with a byte more", larger::commit, 62 + 3);
+        check.illegalState("a byte more than there are", () -> Settings.toWrite64(64, 1).commit());
+        check.due("a disk with a byte more", () -> Settings.toWrite64(65, 1).commit(), 62 + 3);
     }
 
     private static void tenSegments(Check check) {

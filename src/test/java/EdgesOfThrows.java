@@ -63,20 +63,34 @@ final class EdgesOfThrows {
     }
 
     private static void order(Check check) {
-        Twins.refused(check, "type: no term, and eight", ARGUMENT, Settings::fullDraft, x -> x.type(16));
-        Twins.refused(check, "type: no term, and eight", ARGUMENT, Settings::fullDraft, x -> x.type(-1));
+        orderOfDraftAndBuffer(check);
+        orderOfMerge(check);
+        orderOfPile(check);
+    }
+
+    private static void orderOfDraftAndBuffer(Check check) {
+        for (int t : new int[] {-1, 16}) {
+            Twins.refused(check, "type: no term, and eight", ARGUMENT, Settings::fullDraft, x -> x.type(t));
+        }
         for (int key : new int[] {-1, MIN, 42, 0}) {
             Twins.refused(check, "add: no greater key, and an empty draft", ARGUMENT, Settings::emptyDraft, x -> x.add(key));
             Twins.refused(check, "add: no greater key, and a full buffer", ARGUMENT, Settings::fullBuffer, x -> x.add(key));
             Twins.refused(check, "add: all of it", ARGUMENT, EdgesOfThrows::fullBufferAndEmptyDraft, x -> x.add(key));
         }
         Twins.refused(check, "add: -1, in a new object", ARGUMENT, () -> new PostingShelf(64), x -> x.add(-1));
+    }
+
+    private static void orderOfMerge(Check check) {
         for (int[] pair : new int[][] {{-1, 1}, {0, 5}, {1, 1}, {1, 0}, {-1, 5}}) {
             Twins.refused(check, "merge: wrong places, and no room", ARGUMENT, Settings::noRoomToMerge,
                 x -> x.merge(pair[0], pair[1]));
         }
-        Twins.refused(check, "want: no term, and 8", ARGUMENT, Settings::fullPile, x -> x.want(16));
-        Twins.refused(check, "want: no term, and 8", ARGUMENT, Settings::fullPile, x -> x.want(-1));
+    }
+
+    private static void orderOfPile(Check check) {
+        for (int t : new int[] {-1, 16}) {
+            Twins.refused(check, "want: no term, and 8", ARGUMENT, Settings::fullPile, x -> x.want(t));
+        }
         for (int what : new int[] {-1, 11}) {
             Twins.refused(check, "combine: no way, and none", ARGUMENT, () -> Settings.pileOf(0), x -> x.combine(what));
             Twins.refused(check, "combine: no way, and one", ARGUMENT, () -> Settings.pileOf(1), x -> x.combine(what));

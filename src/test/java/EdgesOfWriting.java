@@ -58,29 +58,14 @@ final class EdgesOfWriting {
 
     private static void nothing(Check check) {
         Twins.unchanged(check, "a new object", "0", () -> new PostingShelf(64), PostingShelf::commit);
-        Twins.unchanged(check, "a draft alone", "0", EdgesOfWriting::withDraftAlone, PostingShelf::commit);
+        Twins.unchanged(check, "a draft alone", "0", Settings::draftAlone, PostingShelf::commit);
         Twins.unchanged(check, "all is written", "0", () -> Shelf.ofSegments(800, 3), PostingShelf::commit);
         Twins.unchanged(check, "ten segments", "0", () -> Shelf.ofSegments(800, 10), PostingShelf::commit);
-        Twins.unchanged(check, "no byte is free", "0", () -> withSixtyFourBytes(64), PostingShelf::commit);
+        Twins.unchanged(check, "no byte is free", "0", () -> Settings.with64(64), PostingShelf::commit);
         Twins.unchanged(check, "the buffer is empty again", "0", EdgesOfWriting::withBufferEmptied, PostingShelf::commit);
         for (boolean merges : COMMIT_AND_MERGE) {
             Twins.unchanged(check, "all was cut", "0", () -> Settings.afterCut(merges), PostingShelf::commit);
         }
-    }
-
-    private static PostingShelf withDraftAlone() {
-        PostingShelf x = new PostingShelf(64);
-        x.type(3);
-        return x;
-    }
-
-    /** A segment of 61 bytes, with the documents 1 and 2, and a list of 3. */
-    private static PostingShelf withSixtyFourBytes(int room) {
-        PostingShelf x = new PostingShelf(room);
-        Shelf.put(x, 1, 0, 1, 2, 3, 4, 5, 6, 7);
-        Shelf.put(x, 2, 8, 9, 10, 10);
-        x.commit();
-        return x;
     }
 
     private static PostingShelf withBufferEmptied() {
@@ -243,7 +228,13 @@ final class EdgesOfWriting {
         check.holdsNot("doomed already", x.delete(21));
         x.commit();
         check.same("deleted by the commit, with the new ordinal", Shelf.bytes(x, LIST), "3 4 1 3 3 1 0 5 0");
-        check.due("no more there", () -> x.documents(), before - 1 + 2);
+        check.due("no more there, but the buffer's two are", x::documents, before - 1 + 2);
+        PostingShelf beside = Shelf.ofSegments(800, 4);
+        beside.delete(1);
+        beside.delete(4);
+        beside.merge(1, 2);
+        check.same("those beside it stay doomed too", Shelf.bytes(beside, LIST), "3 1 0 5 0 4 0");
+        check.due("and a commit deletes them", beside::commit, 3);
     }
 
     /** A commit leaves out a segment of deleted ones alone, so a merge never meets one: all it can meet is doomed. */
@@ -295,10 +286,10 @@ final class EdgesOfWriting {
         check.illegalState("a byte is missing", () -> Shelf.commitOne(Shelf.ofSegments(71, 5), 6));
         check.due("beside a segment that goes", () -> commitBesideDoomed(Shelf.ofSegments(70, 5)), 8 + 11);
         check.illegalState("what goes is used before", () -> commitBesideDoomed(Shelf.ofSegments(69, 5)));
-        check.due("a list alone fits", () -> deleteOne(withSixtyFourBytes(68)), 4);
-        check.illegalState("a list alone lacks a byte", () -> deleteOne(withSixtyFourBytes(67)));
-        check.due("a list of none fits", () -> deleteAll(withSixtyFourBytes(65)), 1);
-        check.illegalState("a list of none lacks a byte", () -> deleteAll(withSixtyFourBytes(64)));
+        check.due("a list alone fits", () -> deleteOne(Settings.with64(68)), 4);
+        check.illegalState("a list alone lacks a byte", () -> deleteOne(Settings.with64(67)));
+        check.due("a list of none fits", () -> deleteAll(Settings.with64(65)), 1);
+        check.illegalState("a list of none lacks a byte", () -> deleteAll(Settings.with64(64)));
         check.due("a merge fits", () -> Shelf.ofSegments(73, 5).merge(0, 1), 13 + 9);
         check.illegalState("a merge lacks a byte", () -> Shelf.ofSegments(72, 5).merge(0, 1));
         check.due("a merge of all fits", () -> Shelf.ofSegments(82, 5).merge(0, 4), 28 + 3);
@@ -422,6 +413,16 @@ final class EdgesOfWriting {
             check.holds("21 is not doomed", x.delete(21));
             check.holdsNot("11 is deleted as before", x.delete(11));
             check.holdsNot("40 is no more in the buffer", x.delete(40));
+            PostingShelf all = Settings.rich();
+            for (int key = 10; key <= 31; key++) {
+                all.delete(key);
+            }
+            all.fail(0);
+            check.due("cut with all of them doomed", () -> merges ? all.merge(0, 2) : all.commit(), CUT);
+            check.due("nothing is to be written again", all::commit, 0);
+            for (int key : new int[] {10, 12, 20, 21, 31}) {
+                check.holds(key + " is not doomed", all.delete(key));
+            }
         }
     }
 
@@ -467,7 +468,7 @@ final class EdgesOfWriting {
     }
 
     private static PostingShelf withFullDiskAndDoomed() {
-        PostingShelf x = withSixtyFourBytes(64);
+        PostingShelf x = Settings.with64(64);
         x.delete(1);
         return x;
     }

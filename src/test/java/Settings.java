@@ -34,6 +34,30 @@ final class Settings {
         x.want(3);
     }
 
+    static PostingShelf draftAlone() {
+        PostingShelf x = new PostingShelf(64);
+        x.type(1);
+        return x;
+    }
+
+    /** The documents 1 and 2 in the buffer, for a segment of 61 bytes and so many more, and a list of 3. */
+    static PostingShelf toWrite64(int room, int more) {
+        PostingShelf x = new PostingShelf(room);
+        for (int n = 0; n < more; n++) {
+            x.type(10);
+        }
+        Shelf.put(x, 1, 10, 10, 0, 1, 2, 3);
+        Shelf.put(x, 2, 4, 5, 6, 7, 8, 9);
+        return x;
+    }
+
+    /** The same, written: 64 bytes are used. */
+    static PostingShelf with64(int room) {
+        PostingShelf x = toWrite64(room, 0);
+        x.commit();
+        return x;
+    }
+
     static PostingShelf fullDraft() {
         PostingShelf x = rich();
         for (int t = 8; t < 14; t++) {

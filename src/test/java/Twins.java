@@ -1,4 +1,6 @@
+import java.util.ArrayList;
 import java.util.LinkedHashMap;
+import java.util.List;
 import java.util.Map;
 
 /**
@@ -24,8 +26,8 @@ final class Twins {
 
     private static final int MAX = Integer.MAX_VALUE;
     private static final int[] KEYS = {-1, 0, 1, 2, 3, 4, 5, 6, 7, 8, 9, 10, 11, 12, 20, 21, 22, 30, 31, 40, 41, 42, MAX};
-    private static final int[] POWERS = {0, 10, 20, 21, 22, 30, 40, 60, 100};
     private static final Map<String, Questions> QUESTIONS = questions();
+    private static final List<Questions> WRITINGS = List.of(Twins::writes, Twins::erases);
 
     /** Checks what a call on such an object throws, and that it leaves everything as it was. */
     static void refused(Check check, String what, String exception, Maker maker, CallOn call) {
@@ -40,15 +42,31 @@ final class Twins {
             check.same(what, Check.told(() -> call.answer(called)), due);
             check.same(what + ": " + row.getKey() + " as before", row.getValue().answers(called), row.getValue().answers(plain));
         }
-        // The power is said anew here, before the call, so that it lies just about what is then written.
-        for (int n : POWERS) {
-            PostingShelf plain = maker.make();
-            PostingShelf called = maker.make();
-            plain.fail(n);
-            called.fail(n);
-            check.same(what + ", with power", Check.told(() -> call.answer(called)), due);
-            check.same(what + ": power " + n + " as before", writes(called), writes(plain));
+        for (Questions writing : WRITINGS) {
+            for (int n : powers(maker, writing)) {
+                PostingShelf plain = maker.make();
+                PostingShelf called = maker.make();
+                plain.fail(n);
+                called.fail(n);
+                check.same(what + ", with power", Check.told(() -> call.answer(called)), due);
+                check.same(what + ": power " + n + " as before", writing.answers(called), writing.answers(plain));
+            }
         }
+    }
+
+    /** Powers that end just at, and a byte before, what is written by and by, so that a byte of them shows. */
+    private static List<Integer> powers(Maker maker, Questions writing) {
+        List<Integer> powers = new ArrayList<>(List.of(0));
+        PostingShelf x = maker.make();
+        x.fail(MAX);
+        String answers = writing.answers(x);
+        int sum = 0;
+        for (String written : answers.substring(0, answers.indexOf('\n')).trim().split(" ")) {
+            sum += written.startsWith("throws.") ? 0 : Integer.parseInt(written);
+            powers.add(Math.max(0, sum - 1));
+            powers.add(sum);
+        }
+        return powers;
     }
 
     private static Map<String, Questions> questions() {
@@ -59,6 +77,7 @@ final class Twins {
         rows.put("draft", Twins::draft);
         rows.put("buffer and doomed", Twins::deletes);
         rows.put("what is written", Twins::writes);
+        rows.put("what is written when all is deleted", Twins::erases);
         rows.put("what is merged", Twins::merges);
         return rows;
     }
@@ -105,15 +124,24 @@ final class Twins {
         return text.append(Check.told(x::commit)).append('\n').append(Shelf.shown(x)).toString();
     }
 
-    /** What is written, as long as the power lasts, and one time more. */
+    /** What is written when documents are added one by one; the first line is of the commits alone. */
     private static String writes(PostingShelf x) {
-        StringBuilder text = new StringBuilder();
+        StringBuilder written = new StringBuilder();
+        StringBuilder others = new StringBuilder();
         for (int n = 5; n > 0; n--) {
             int key = MAX - n;
-            text.append(Check.told(x::commit)).append(' ');
-            text.append(Check.told(() -> x.type(1))).append(' ').append(Check.told(() -> x.add(key))).append(' ');
+            written.append(Check.told(x::commit)).append(' ');
+            others.append(Check.told(() -> x.type(1))).append(' ').append(Check.told(() -> x.add(key))).append(' ');
         }
-        return text.append('\n').append(Shelf.shown(x)).toString();
+        return written + "\n" + others + "\n" + Shelf.shown(x);
+    }
+
+    /** What is written when there is as little as can be: that finds room where more does not. */
+    private static String erases(PostingShelf x) {
+        for (int key : KEYS) {
+            x.delete(key);
+        }
+        return Check.told(x::commit) + "\n" + Shelf.shown(x);
     }
 
     private static String merges(PostingShelf x) {
